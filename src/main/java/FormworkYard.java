@@ -99,12 +99,12 @@ public final class FormworkYard {
         }
     }
 
-    // ---- the yard
-
     public FormworkYard() {
         Arrays.fill(temperatures, 20);
         sumGains();
     }
+
+    // ---- the yard
 
     public void setTemperature(int from, int to, int temperature)
             throws IndexOutOfBoundsException, IllegalArgumentException {
@@ -120,9 +120,7 @@ public final class FormworkYard {
     }
 
     public int temperature(int hour) throws IndexOutOfBoundsException {
-        if (!isHour(hour)) {
-            throw new IndexOutOfBoundsException();
-        }
+        requireHour(hour);
         return temperatures[hour];
     }
 
@@ -166,7 +164,7 @@ public final class FormworkYard {
             throws IllegalArgumentException, IllegalStateException {
         requirePour(start, volume, panels, strength);
         int number = freeNumber();
-        if (number < 0 || number >= MOST_POURS) {
+        if (!isNumber(number)) {
             throw new IllegalStateException();
         }
         Pour added = new Pour(start, volume, panels, strength);
@@ -176,10 +174,7 @@ public final class FormworkYard {
     }
 
     public int move(int pour, int start) throws NoSuchElementException, IllegalArgumentException {
-        Pour moved = find(pour);
-        if (moved == null) {
-            throw new NoSuchElementException();
-        }
+        Pour moved = existing(pour);
         requireRange(start, 0, LAST_START);
         int before = moved.start;
         moved.start = start;
@@ -188,20 +183,14 @@ public final class FormworkYard {
     }
 
     public int cancel(int pour) throws NoSuchElementException {
-        Pour cancelled = find(pour);
-        if (cancelled == null || !isNumber(pour)) {
-            throw new NoSuchElementException();
-        }
+        Pour cancelled = existing(pour);
         pourList[pour] = null;
         return cancelled.panels;
     }
 
     public int delay(int pour, int part, int hours)
             throws NoSuchElementException, IllegalArgumentException, IllegalStateException {
-        Pour delayed = find(pour);
-        if (delayed == null) {
-            throw new NoSuchElementException();
-        }
+        Pour delayed = existing(pour);
         requireRange(part, 0, delayed.volume - 1);
         requireRange(hours, 1, MOST_BREAK_HOURS);
         if (delayed.breaks >= MOST_BREAKS) {
@@ -223,18 +212,12 @@ public final class FormworkYard {
     }
 
     public int endOf(int pour) throws NoSuchElementException {
-        Pour asked = find(pour);
-        if (asked == null) {
-            throw new NoSuchElementException();
-        }
+        Pour asked = existing(pour);
         return asked.end;
     }
 
     public int coldJoints(int pour) throws NoSuchElementException {
-        Pour asked = find(pour);
-        if (asked == null) {
-            throw new NoSuchElementException();
-        }
+        Pour asked = existing(pour);
         int cold = 0;
         int hoursAhead = 0;
         for (int i = 0; i < asked.breaks && i < MOST_BREAKS; i++) {
@@ -249,18 +232,12 @@ public final class FormworkYard {
     }
 
     public int struck(int pour) throws NoSuchElementException {
-        Pour asked = find(pour);
-        if (asked == null) {
-            throw new NoSuchElementException();
-        }
+        Pour asked = existing(pour);
         return asked.strike;
     }
 
     public int freeFrom(int pour) throws NoSuchElementException {
-        Pour asked = find(pour);
-        if (asked == null) {
-            throw new NoSuchElementException();
-        }
+        Pour asked = existing(pour);
         return asked.busyUntil < HOURS ? asked.busyUntil : NONE;
     }
 
@@ -317,10 +294,7 @@ public final class FormworkYard {
     }
 
     public int panelsOf(int pour) throws NoSuchElementException {
-        Pour asked = find(pour);
-        if (asked == null) {
-            throw new NoSuchElementException();
-        }
+        Pour asked = existing(pour);
         giveOutPanels();
         return Long.bitCount(asked.given);
     }
@@ -331,9 +305,10 @@ public final class FormworkYard {
         }
         requireHour(hour);
         giveOutPanels();
+        long bit = 1L << panel;
         for (int number = 0; number < MOST_POURS; number++) {
             Pour pour = pourList[number];
-            if (pour != null && (pour.given & 1L << panel) != 0 && pour.isBusy(hour)) {
+            if (pour != null && (pour.given & bit) != 0 && pour.isBusy(hour)) {
                 return number;
             }
         }
@@ -373,8 +348,12 @@ public final class FormworkYard {
         requireRange(strength, 1, MOST_STRENGTH);
     }
 
-    private Pour find(int pour) {
-        return isNumber(pour) ? pourList[pour] : null;
+    private Pour existing(int pour) {
+        Pour found = isNumber(pour) ? pourList[pour] : null;
+        if (found == null) {
+            throw new NoSuchElementException();
+        }
+        return found;
     }
 
     private int freeNumber() {

@@ -16,6 +16,7 @@ public final class PanelsTest {
         promise22Edges();
         promise22Refusals();
         promise23PanelsOf();
+        promises23And24TenPours();
         promise24PourOf();
         promise24Refusals();
         CHECKS.end("PanelsTest");
@@ -183,6 +184,25 @@ public final class PanelsTest {
         CHECKS.refused("panelsOf(3) without pour 3", missing, () -> yard.panelsOf(3));
         yard.cancel(1);
         CHECKS.refused("panelsOf(1) cancelled", missing, () -> yard.panelsOf(1));
+    }
+
+    private static void promises23And24TenPours() {
+        FormworkYard yard = new FormworkYard();
+        yard.setPanels(60);
+        for (int pour = 0; pour < 10; pour++) {
+            yard.plan(50, 10, 6, 25);
+        }
+        for (int pour = 0; pour < 10; pour++) {
+            due("panelsOf(" + pour + ") of ten", yard.panelsOf(pour), 6);
+            due("pourOf, lowest panel", yard.pourOf(6 * pour, 50), pour);
+            due("pourOf, highest panel", yard.pourOf(6 * pour + 5, 50), pour);
+        }
+        yard.move(9, 49);
+        due("pourOf(0, 50), pour 9 standing first", yard.pourOf(0, 50), 9);
+        due("pourOf(6, 50), pour 9 standing first", yard.pourOf(6, 50), 0);
+        due("pourOf(59, 50), pour 9 standing first", yard.pourOf(59, 50), 8);
+        due("pourOf(0, 47), pour 9 standing first", yard.pourOf(0, 47), 9);
+        due("pourOf(6, 47), pour 9 standing first", yard.pourOf(6, 47), NONE);
     }
 
     private static void promise24PourOf() {
