@@ -1,7 +1,14 @@
+import java.util.List;
 import java.util.NoSuchElementException;
+import java.util.function.Function;
 
 /** Yards that tests begin with, and what can be seen of one. */
 final class Yards {
+    /** Each bears one yard's whole look within its 512 calls; together they see all of it. */
+    static final List<Function<FormworkYard, String>> LOOKS = List.of(Yards::picture, Yards::later,
+            Yards::history, yard -> temperatures(yard, 0), yard -> temperatures(yard, 400),
+            yard -> temperatures(yard, 800));
+
     private Yards() {
     }
 
@@ -22,7 +29,41 @@ final class Yards {
         return yard;
     }
 
-    /** Some 400 calls, so that a yard bears one picture within its 512 calls. */
+    /** The busy yard with pours 1 and 3 alone. */
+    static FormworkYard roomy() {
+        FormworkYard yard = busy();
+        for (int pour = 0; pour < 10; pour++) {
+            if (pour != 1 && pour != 3) {
+                yard.cancel(pour);
+            }
+        }
+        return yard;
+    }
+
+    /** Ten pours alike, without breaks. */
+    static FormworkYard ten() {
+        FormworkYard yard = new FormworkYard();
+        for (int pour = 0; pour < 10; pour++) {
+            yard.plan(50, 10, 6, 25);
+        }
+        return yard;
+    }
+
+    /** A yard in which no hour gains. */
+    static FormworkYard frozen() {
+        FormworkYard yard = new FormworkYard();
+        yard.setTemperature(0, 999, -10);
+        return yard;
+    }
+
+    /** Lets each of the hours gain 45, so that two of them make a cold joint and one does not. */
+    static void warm(FormworkYard yard, int... hours) {
+        for (int hour : hours) {
+            yard.setTemperature(hour, hour, 35);
+        }
+    }
+
+    /** What the calls that ask tell, in some 300 calls. */
     static String picture(FormworkYard yard) {
         StringBuilder text = new StringBuilder();
         for (int hour = 0; hour < 1000; hour += 37) {
@@ -61,6 +102,62 @@ final class Yards {
             return Integer.toString(yard.pourOf(panel, hour));
         } catch (IndexOutOfBoundsException none) {
             return "none";
+        }
+    }
+
+    /** What the yard works out anew, at its rate and with its crew, in some 450 calls. */
+    private static String later(FormworkYard yard) {
+        StringBuilder text = new StringBuilder();
+        yard.setTemperature(0, 0, 3);
+        for (int hour = 0; hour < 400; hour++) {
+            text.append(yard.need(hour)).append(' ');
+        }
+        for (int pour = 0; pour < 10; pour++) {
+            addPour(text, yard, pour);
+        }
+        return text.toString();
+    }
+
+    private static String temperatures(FormworkYard yard, int from) {
+        StringBuilder text = new StringBuilder();
+        for (int hour = from; hour < from + 400 && hour < 1000; hour++) {
+            text.append(yard.temperature(hour)).append(' ');
+        }
+        return text.toString();
+    }
+
+    /** What the calls that change the yard let see: starts, volumes, breaks, panels, numbers. */
+    private static String history(FormworkYard yard) {
+        StringBuilder text = new StringBuilder();
+        yard.setTemperature(0, 999, -10);
+        yard.setTemperature(500, 501, 50);
+        text.append(yard.setRates(1, 1)).append(' ');
+        for (int pour = 0; pour < 10; pour++) {
+            addHistory(text, yard, pour);
+            addPanels(text, yard, pour);
+        }
+        return text.toString();
+    }
+
+    private static void addHistory(StringBuilder text, FormworkYard yard, int pour) {
+        try {
+            text.append(yard.endOf(pour)).append(' ').append(yard.move(pour, 502)).append(' ');
+            // only a break that lasts through 500 and 501 counts: the steps tell where each begins
+            for (int start = 501; start > 471; start--) {
+                yard.move(pour, start);
+                text.append(yard.coldJoints(pour)).append(' ');
+            }
+            text.append(yard.delay(pour, 0, 1)).append(' ');
+        } catch (NoSuchElementException | IllegalStateException none) {
+            text.append("none ");
+        }
+    }
+
+    private static void addPanels(StringBuilder text, FormworkYard yard, int pour) {
+        try {
+            text.append(yard.cancel(pour)).append(" / ");
+        } catch (NoSuchElementException none) {
+            text.append("none / ");
         }
     }
 }
