@@ -1,16 +1,13 @@
-import java.io.IOException;
-import java.nio.file.Files;
-import java.nio.file.Path;
 import java.util.LinkedHashSet;
 import java.util.Set;
 
-/** The sentences of the document's terms and promises, each with a test of its own. */
+/** The sentences of the document, each with a test of its own; its public face is FaceTest's. */
 final class Sentences {
     private static final Set<String> HEADINGS =
             Set.of("Rates.", "Pours.", "Panels.", "Which panel.");
 
     private final Checks checks;
-    private final Set<String> tested = new LinkedHashSet<>();
+    private final Set<String> known = new LinkedHashSet<>();
     private String section = "";
 
     Sentences(Checks checks) {
@@ -23,11 +20,7 @@ final class Sentences {
     }
 
     void sentence(String words, Runnable test) {
-        String name = section + ", " + words;
-        checks.part(name);
-        if (!tested.add(name)) {
-            checks.report("is tested twice");
-        }
+        add(words);
         int before = checks.made();
         try {
             test.run();
@@ -39,41 +32,52 @@ final class Sentences {
         }
     }
 
+    /** A sentence that leaves something free, so that no answer can break it. */
+    void freedom(String words) {
+        add(words);
+    }
+
+    private void add(String words) {
+        String name = section + ", " + words;
+        checks.part(name);
+        if (!known.add(name)) {
+            checks.report("stands twice");
+        }
+    }
+
     /** Looks that no sentence of the document is without a test, and no test without one. */
-    void compareWith(Path document) throws IOException {
-        Set<String> told = told(Files.readString(document));
+    void compareWith(Document document) {
+        Set<String> told = told(document);
         checks.part("The document");
         for (String name : told) {
-            checks.due("tests of \"" + name + "\"", tested.contains(name) ? 1 : 0, 1);
+            checks.due("tests of \"" + name + "\"", known.contains(name) ? 1 : 0, 1);
         }
-        for (String name : tested) {
+        for (String name : known) {
             checks.due("places of \"" + name + "\"", told.contains(name) ? 1 : 0, 1);
         }
     }
 
-    private static Set<String> told(String document) {
+    private static Set<String> told(Document document) {
         Set<String> told = new LinkedHashSet<>();
-        String heading = "";
-        for (String line : document.split("\n")) {
-            if (line.startsWith("## ")) {
-                heading = line.substring(3).replaceFirst(":.*", "");
-            } else if (heading.equals("Terms")) {
-                addSentences(told, line);
-            } else if (heading.startsWith("Promise ") && !line.isBlank()) {
-                told.add(heading + ", " + line.replaceFirst("^`[^`]*`: ", ""));
+        for (String heading : document.headings()) {
+            if (heading.equals("The public face")) {
+                continue;
+            }
+            for (String line : document.lines(heading)) {
+                if (heading.startsWith("Promise ")) {
+                    told.add(heading + ", " + line.replaceFirst("^`[^`]*`: ", ""));
+                } else {
+                    addSentences(told, heading, line);
+                }
             }
         }
         return told;
     }
 
-    private static void addSentences(Set<String> told, String line) {
-        // these tell what the terms are for and how the interface is ordered, and no case
-        if (line.startsWith("The calls tell ") || line.startsWith("Ahead of the calls ")) {
-            return;
-        }
+    private static void addSentences(Set<String> told, String heading, String line) {
         for (String sentence : line.split("(?<=\\.) (?=[A-Z])")) {
-            if (!sentence.isBlank() && !HEADINGS.contains(sentence)) {
-                told.add("Terms, " + sentence);
+            if (!HEADINGS.contains(sentence)) {
+                told.add(heading + ", " + sentence);
             }
         }
     }
