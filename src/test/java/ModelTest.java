@@ -134,7 +134,8 @@ public final class ModelTest {
         compare(where + "pourOf(" + panel + ", " + hour + ")",
                 () -> yard.pourOf(panel, hour), () -> naive.pourOf(panel, hour));
         compare(where + "peak()", () -> yard.peak(), () -> naive.peak());
-        compare(where + "peakByOverlaps()", () -> yard.peakByOverlaps(), () -> naive.peak());
+        compare(where + "peakByOverlaps()", () -> yard.peakByOverlaps(),
+                () -> naive.peakByOverlaps());
         compare(where + "firstShort()", () -> yard.firstShort(), () -> naive.firstShort());
         if (upTo(3) == 0) {
             int from = start();

@@ -151,6 +151,10 @@ final class NaiveYard {
         return Arrays.stream(needs()).max().getAsInt();
     }
 
+    int peakByOverlaps() {
+        return peak();
+    }
+
     int firstShort() {
         int[] needs = needs();
         for (int hour = 0; hour < 1000; hour++) {
